@@ -15,8 +15,8 @@ public final class PickedForms {
     private static final int MOST_VALUES = MOST_BLOCKS * MOST_IN_BLOCK + MOST_IN_TAIL;
     private static final int MOST_SAVED = 6;
     private static final int MOST_CODES = 60;
-    /** The shortest part is a digit and its comma. */
-    private static final int MOST_PARTS = MOST_CODES / 2 + 1;
+    /** A part is a digit and a comma at the least, but for the last one. */
+    private static final int MOST_PARTS = MOST_CODES / 2;
 
     private static final int PLAIN = 0;
     private static final int PACKED = 1;

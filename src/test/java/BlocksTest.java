@@ -8,6 +8,7 @@ final class BlocksTest {
         anewBySample();
         join();
         split();
+        neighboursStay();
         drop();
         set();
         setIsRefused();
@@ -127,6 +128,42 @@ final class BlocksTest {
         z.drop(0);
         z.split(10, 1);
         check.same("split() to 12 blocks", Columns.lengths(z), "1 1 1 1 1 1 1 1 1 1 1 1 +0");
+    }
+
+    private static String blocks(PickedForms x) {
+        StringBuilder all = new StringBuilder();
+        for (int block = 0; block < x.count(1); block++) {
+            all.append(x.block(block, 0)).append('/').append(x.block(block, 1)).append('/')
+                    .append(x.block(block, 3)).append(' ');
+        }
+        return all.toString();
+    }
+
+    private static void neighboursStay() {
+        PickedForms x = Columns.block(3, 3, 3, 3, 3, 900, 900);
+        Columns.addBlock(x, 5, 5, 5, 7, 7, 9);
+        Columns.addBlock(x, 9);
+        Columns.addBlock(x, 100, 101, 103, 102);
+        Columns.addBlock(x, 0, 999, 0, 999, 0);
+        check.same("blocks", blocks(x), "2/7/28 3/6/29 0/1/10 1/4/22 4/5/29 ");
+        x.join(1);
+        check.same("join(1): the others stay", blocks(x), "2/7/28 3/7/32 1/4/22 4/5/29 ");
+        x.split(1, 6);
+        check.same("split(1, 6): the others stay", blocks(x),
+                "2/7/28 3/6/29 0/1/10 1/4/22 4/5/29 ");
+        x.split(3, 1);
+        check.same("split(3, 1): the others stay", blocks(x),
+                "2/7/28 3/6/29 0/1/10 0/1/10 1/3/20 4/5/29 ");
+        x.join(3);
+        check.same("join(3): the others stay", blocks(x), "2/7/28 3/6/29 0/1/10 1/4/22 4/5/29 ");
+        x.anew(3);
+        x.change(14, 800);
+        check.same("change() anew: the others stay", blocks(x),
+                "2/7/28 3/6/29 0/1/10 0/4/40 4/5/29 ");
+        x.drop(1);
+        check.same("drop(1): the others stay", blocks(x), "2/7/28 0/1/10 0/4/40 4/5/29 ");
+        check.same("the values", Columns.values(x),
+                "3,3,3,3,3,900,900,9,800,101,103,102,0,999,0,999,0");
     }
 
     private static void drop() {

@@ -158,6 +158,12 @@ final class LooksTest {
         check.same("bits: deltas", Columns.bits(Columns.block(DELTAS), 0), deltas);
         check.same("bits: falling deltas", Columns.bits(Columns.block(FALLING), 0), falling);
         check.same("bits: listed", Columns.bits(Columns.block(LISTED), 0), listed);
+        PickedForms odd = Columns.block(109, 110, 112, 111);
+        check.same("bits: packed above an odd least value", Columns.bits(odd, 0),
+                "0001101101" + "0010" + "00" + "01" + "11" + "10");
+        PickedForms beside = Columns.block(RUNS);
+        Columns.addBlock(beside, 900);
+        check.same("bits: a run ends with its block", Columns.bits(beside, 0), runs);
         PickedForms x = allForms();
         check.same("bits: of the third block", Columns.bits(x, 2), runs);
         check.same("bits: of the last block", Columns.bits(x, 4), listed);
@@ -283,6 +289,9 @@ final class LooksTest {
         matches(x, 50, 50, "1 1 18 24");
         matches(x, 100, 101, "2 2 22 2");
         matches(x, 800, 950, "2 2 18 11");
+        check.same("match(): looks asked first", allForms().match(800, 950, 2), 18);
+        x.match(0, 999, 0);
+        check.same("match(): looks of the call itself", x.match(800, 950, 2), 18);
         matches(new PickedForms(), 0, 999, "0 0 0 -1");
         matches(Columns.of(4, 5, 6), 6, 5, "0 0 3 -1");
         matches(Columns.of(4, 5, 6), 5, 6, "2 2 3 1");

@@ -260,6 +260,8 @@ final class WhatIfTest {
         x.change(7, 5);
         x.change(20, 102);
         check.same("digest() of all forms", x.digest(), due(x, true, ""));
+        PickedForms edges = Columns.of(0, 98, 99, 100, 101, 498, 499, 500, 998, 999);
+        check.same("digest() at the edges of its matches", edges.digest(), due(edges, false, ""));
         PickedForms full = Columns.full();
         Columns.loaded(full, "999*15");
         check.same("digest() of a full column", full.digest(), due(full, false, ""));

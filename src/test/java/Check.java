@@ -6,11 +6,19 @@ final class Check {
     }
 
     private final String name;
+    private String test = "";
+    private int tests = 0;
     private int compared = 0;
     private int wrong = 0;
 
     Check(String name) {
         this.name = name;
+    }
+
+    /** The comparisons behind this belong to the test of this name. */
+    void begin(String nextTest) {
+        test = nextTest + ": ";
+        tests++;
     }
 
     void same(String what, long got, long due) {
@@ -50,7 +58,8 @@ final class Check {
     }
 
     void end() {
-        System.out.println(name + ": " + compared + " compared, " + wrong + " wrong");
+        String told = tests == 0 ? "" : tests + " tests, ";
+        System.out.println(name + ": " + told + compared + " compared, " + wrong + " wrong");
         if (wrong > 0) {
             System.exit(1);
         }
@@ -59,7 +68,7 @@ final class Check {
     private void tell(String what, String got, String due) {
         wrong++;
         if (wrong <= 40) {
-            System.out.println(name + ": " + what + " answered " + got + ", due is " + due);
+            System.out.println(name + ": " + test + what + " answered " + got + ", due is " + due);
         }
     }
 }

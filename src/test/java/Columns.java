@@ -62,6 +62,65 @@ final class Columns {
         return x;
     }
 
+    /** Twelve blocks of 16 values each, and 15 in the tail: 207 values, no more fit. */
+    static PickedForms brimful() {
+        PickedForms x = full();
+        loaded(x, "500*15");
+        return x;
+    }
+
+    /**
+     * A block of each form, in its order, and a tail of three; one change in place; a
+     * snapshot that is behind the state; a buffer with a text; two saved states.
+     */
+    static PickedForms rich() {
+        PickedForms x = new PickedForms();
+        addBlock(x, 1, 999);
+        addBlock(x, 100, 101, 103, 102);
+        addBlock(x, 3, 3, 3, 3, 3, 900, 900);
+        addBlock(x, 5, 5, 5, 7, 7, 9);
+        addBlock(x, 0, 999, 0, 999, 0);
+        writeAll(x, 50, 60);
+        x.change(3, 102);
+        settle(x);
+        x.write(70);
+        appendAll(x, "5*3,7");
+        return x;
+    }
+
+    /** As rich(), but with six saved states, all of them unlike. */
+    static PickedForms richWithSixStates() {
+        PickedForms x = rich();
+        x.set(0, 9);
+        x.change(24, 1);
+        x.anew(1);
+        x.write(80);
+        x.change(2, 101);
+        return x;
+    }
+
+    /** Twelve blocks, the tail and the buffer full, a snapshot that is behind, six states. */
+    static PickedForms brimfulWithAll() {
+        PickedForms x = full();
+        x.keep();
+        loaded(x, "500*11");
+        writeAll(x, 501, 502, 503, 504);
+        x.set(0, 5);
+        for (int i = 0; i < 60; i++) {
+            x.append(i % 2 == 0 ? '7' : ',');
+        }
+        return x;
+    }
+
+    /** Takes a snapshot, and leaves one saved state alone. */
+    static void settle(PickedForms x) {
+        x.keep();
+        for (int left = x.count(8); left > 0; left--) {
+            x.undo();
+        }
+        x.goBack();
+    }
+
     static String values(PickedForms x) {
         StringBuilder all = new StringBuilder();
         for (int i = 0; i < x.count(0); i++) {

@@ -263,6 +263,31 @@ final class BlocksEdgesTest {
         return x;
     }
 
+    /** Each block's form, values and room. */
+    private static String rows(PickedForms x) {
+        StringBuilder all = new StringBuilder();
+        for (int block = 0; block < x.count(1); block++) {
+            all.append(block == 0 ? "" : " ").append(x.block(block, 0)).append('/')
+                    .append(x.block(block, 1)).append('/').append(x.block(block, 3));
+        }
+        return all.toString();
+    }
+
+    @Says("It has at most 12 blocks, numbered from 0 in their order")
+    static void promise06_theBlocksBehindMoveUp() {
+        PickedForms x = Columns.rich();
+        check.same("before", rows(x), "0/2/20 1/4/22 2/7/28 3/6/29 4/5/29");
+        x.join(0);
+        check.same("join(0) of 2 and 4", rows(x), "0/6/60 2/7/28 3/6/29 4/5/29");
+        x.undo();
+        x.join(3);
+        check.same("join(3) of the last two", rows(x), "0/2/20 1/4/22 2/7/28 4/11/87");
+        x.undo();
+        x.join(1);
+        check.same("join(1) in the middle", rows(x), "0/2/20 2/11/84 3/6/29 4/5/29");
+        check.same("values", Columns.values(x), Columns.values(Columns.rich()));
+    }
+
     @Says({"Returns the form of the new block.",
         "New blocks, and blocks that are joined or split, are written anew."})
     static void promise06_returnsEachForm() {
@@ -462,6 +487,20 @@ final class BlocksEdgesTest {
         int before = x.count(3);
         check.same("bits of 14 in a room of 22", x.split(0, 2), -13);
         check.same("what count(3) grows by", x.count(3) - before, 13);
+    }
+
+    @Says("It has at most 12 blocks, numbered from 0 in their order")
+    static void promise07_theBlocksBehindMoveDown() {
+        PickedForms x = Columns.rich();
+        x.split(0, 1);
+        check.same("split(0, 1)", rows(x), "0/1/10 0/1/10 1/4/22 2/7/28 3/6/29 4/5/29");
+        x.undo();
+        x.split(2, 5);
+        check.same("split(2, 5)", rows(x), "0/2/20 1/4/22 1/5/14 1/2/14 3/6/29 4/5/29");
+        x.undo();
+        x.split(4, 4);
+        check.same("split(4, 4)", rows(x), "0/2/20 1/4/22 2/7/28 3/6/29 4/4/28 0/1/10");
+        check.same("values", Columns.values(x), Columns.values(Columns.rich()));
     }
 
     @Says("New blocks, and blocks that are joined or split, are written anew.")

@@ -535,6 +535,21 @@ final class LooksEdgesTest {
                 "0000000011" + "0010" + "1110000100" + "0000" + "0000000011" + "0000");
     }
 
+    @Says("2, runs: for each run of like values that stand side by side (as long as can be): "
+        + "the value in 10 bits, and its length less 1 in 4 bits.")
+    static void promise20_runsEndWithTheirBlock() {
+        PickedForms x = by(16, 5, 3, 3, 3, 900);
+        Columns.addBlock(x, 900, 900, 900, 3, 3, 3);
+        x.write(3);
+        bits("before a block of the same value", x,
+                "0000000011" + "0010" + "1110000100" + "0000");
+        check.same("before a tail of the same value", Columns.bits(x, 1),
+                "1110000100" + "0010" + "0000000011" + "0010");
+        x.undo();
+        check.same("at the end", Columns.bits(x, 1),
+                "1110000100" + "0010" + "0000000011" + "0010");
+    }
+
     @Says({"3, deltas: the first value in 10 bits; with z as the greatest of the steps, w(z) in "
         + "4 bits; then each step in w(z) bits.",
         "with e as this value less the one ahead of it, the step is 2 e if e is 0 or more, "

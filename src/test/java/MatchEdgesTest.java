@@ -107,6 +107,18 @@ final class MatchEdgesTest {
         }
     }
 
+    @Says(WHAT)
+    static void promise23_eachNumberIsOfItsOwnCall() {
+        int[] due = {3, 3, 15, 19};
+        for (int what = 0; what <= 3; what++) {
+            check.same("asked first", Columns.rich().match(0, 0, what), due[what]);
+            PickedForms x = Columns.rich();
+            x.match(0, 999, 2);
+            x.match(500, 499, 0);
+            check.same("asked behind another", x.match(0, 0, what), due[what]);
+        }
+    }
+
     // ---- the empty and the full column
 
     @Says({"To match means to find how many values of the column are from a least number to a "

@@ -37,16 +37,18 @@ final class QuotesTest {
     private static void read(String document) {
         for (String section : document.split("\n## ")) {
             String title = section.substring(0, section.indexOf('\n'));
+            int bound = section.indexOf("An object is used");
             if (title.startsWith("Promise") || title.equals("Terms")) {
-                String text = spaced(withoutFrame(section.substring(title.length())));
-                whole.put(title, text);
-                left.put(title, new StringBuilder(text));
-            } else if (title.equals("What it is")) {
-                String text = spaced(section.substring(section.indexOf("An object is used")));
-                whole.put("Terms before", text);
-                left.put("Terms before", new StringBuilder(text));
+                put(title, withoutFrame(section.substring(title.length())));
+            } else if (title.equals("What it is") && bound >= 0) {
+                put("Terms: the bound of calls", section.substring(bound));
             }
         }
+    }
+
+    private static void put(String title, String text) {
+        whole.put(title, spaced(text));
+        left.put(title, new StringBuilder(spaced(text)));
     }
 
     /** Without headings, the calls' own lines (FaceTest tells of these), and comments' places. */

@@ -443,9 +443,15 @@ final class WhatIfEdgesTest {
     // ---- promise 29: digest
 
     private static long hash(long... list) {
+        return hashOfAll(list);
+    }
+
+    private static long hashOfAll(long[]... lists) {
         long hash = 3631L;
-        for (long number : list) {
-            hash = 31 * hash + number;
+        for (long[] list : lists) {
+            for (long number : list) {
+                hash = 31 * hash + number;
+            }
         }
         return hash;
     }
@@ -509,15 +515,10 @@ final class WhatIfEdgesTest {
     }
 
     private static long dueOfBuffer(String text) {
-        long[] list = new long[31 + text.length()];
         long[] ahead = {0, 0, 0, 0, 0, 0, 0, 0, 0, 16, 16, 31,
             0, 0, 0, -1, 0, 0, 0, -1, 0, 0, 0, -1, 0, 0, 0,
             Double.doubleToLongBits(1.0), 0, 0, text.length()};
-        System.arraycopy(ahead, 0, list, 0, 31);
-        for (int i = 0; i < text.length(); i++) {
-            list[31 + i] = text.charAt(i);
-        }
-        return hash(list);
+        return hashOfAll(ahead, text.chars().asLongStream().toArray());
     }
 
     @Says("the length of the buffer and each of its character codes.")
@@ -546,22 +547,35 @@ final class WhatIfEdgesTest {
 
     @Says("match from 0 to 99, from 100 to 499 and from 0 to 999 with 0 to 3 each;")
     static void promise29_atTheEdgesOfItsMatches() {
-        long[] middle = {
-            1, 1, 1, 0, 0, 0, 1, -1, 1, 1, 1, 0,
-            0, 0, 1, -1, 1, 1, 1, 0, 1, 1, 1, 0,
-            0, 0, 1, -1, 1, 1, 1, 0, 1, 1, 1, 0,
-            0, 0, 1, -1, 0, 0, 1, -1, 1, 1, 1, 0};
-        int[] values = {99, 100, 499, 500};
-        for (int i = 0; i < 4; i++) {
-            long[] list = new long[35];
-            long[] ahead = {1, 0, 1, 10, 0, 0, 0, values[i], 1, 16, 16, 31, values[i], -1, 0, 1};
+        int[] values = {0, 1, 98, 99, 100, 499, 500, 998, 999};
+        for (int value : values) {
+            long[] ahead = {1, 0, 1, 10, 0, 0, 0, value, 1, 16, 16, 31, value, -1, 0, 1};
+            int low = value <= 99 ? 1 : 0;
+            int middle = value >= 100 && value <= 499 ? 1 : 0;
+            long[] matches = {low, low, 1, low - 1, middle, middle, 1, middle - 1, 1, 1, 1, 0};
             long[] behind = {17, 17, 1, Double.doubleToLongBits(1.0),
                 Float.floatToIntBits(10.0f), 0, 0};
-            System.arraycopy(ahead, 0, list, 0, 16);
-            System.arraycopy(middle, 12 * i, list, 16, 12);
-            System.arraycopy(behind, 0, list, 28, 7);
-            check.same("a tail of " + values[i], Columns.of(values[i]).digest(), hash(list));
+            check.same("a tail of " + value, Columns.of(value).digest(),
+                    hashOfAll(ahead, matches, behind));
         }
+    }
+
+    @Says({"the bits of sizeShare (as Double.doubleToLongBits);",
+        "the bits of meanBits (as Float.floatToIntBits);"})
+    static void promise29_ofTheLeastShare() {
+        long[] ahead = {16, 1, 0, 21, 0, 1, 0, 112, 6, 16, 16, 31};
+        long[] values = new long[64];
+        for (int i = 0; i < 16; i++) {
+            values[4 * i] = 7;
+            values[4 * i + 2] = i;
+            values[4 * i + 3] = 1;
+        }
+        long[] behind = {1, 16, 14, 14, 7, 7, 1, 1, 1, 0, 160, 14, 14, 14, 14,
+            0, 0, 0, 0, 0, 0, 0, 1, 1, 1, 0, 0, 0, 0, 1,
+            16, 16, 1, 0, 0, 0, 1, -1, 16, 16, 1, 0, 21, 21, 1,
+            Double.doubleToLongBits(21.0 / 160.0), Float.floatToIntBits(21.0f / 16.0f), 0, 0};
+        check.same("16 like values", Columns.of(7, 7, 7, 7, 7, 7, 7, 7, 7, 7, 7, 7, 7, 7, 7, 7)
+                .digest(), hashOfAll(ahead, values, behind));
     }
 
     @Says("in long arithmetic with overflow.")

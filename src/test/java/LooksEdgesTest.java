@@ -102,6 +102,18 @@ final class LooksEdgesTest {
         check.same("the last of 12 blocks", Columns.brimful().value(191, 1), 11);
     }
 
+    @Says("1: its block, NONE if it is in the tail;")
+    static void promise17_noBlockInTheTailBehindADroppedOne() {
+        PickedForms x = Columns.rich();
+        x.drop(4);
+        check.same("blocks", numbers(x, 17, 21, 1), "3 3 -1 -1 -1");
+        check.same("places", numbers(x, 17, 21, 2), "4 5 0 1 2");
+        check.same("change() in the tail", x.change(19, 999), 0);
+        x.undo();
+        x.join(2);
+        check.same("blocks behind join()", numbers(x, 17, 21, 1), "2 2 -1 -1 -1");
+    }
+
     @Says("To find the value at an index takes these looks: in the tail, in a plain or a packed "
         + "block 1;")
     static void promise17_oneLookInTheTailPlainAndPacked() {
